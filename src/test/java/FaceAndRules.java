@@ -132,7 +132,7 @@ public final class FaceAndRules {
   static void smallRoom() throws IllegalAccessException {
     MovedWays x = new MovedWays();
     int[] fresh = room(x);
-    for (int i = 0; i < 200; i++) { x.drift(20); x.keep(i % 2); if (i % 7 == 0) x.goBack(0); x.write(0, 0, 0); }
+    for (int i = 0; i < 150; i++) { x.drift(20); x.keep(i % 2); if (i % 7 == 0) x.goBack(0); x.write(0, 0, 0); }
     int[] used = room(x);
     System.out.println("room: new " + Arrays.toString(fresh) + ", with images " + Arrays.toString(used));
     must(used[0] * 512 < 600000 && used[1] * 512 < 7300000, "512 objects with images fit in the room");

@@ -1,13 +1,15 @@
 import java.util.ArrayList;
 import java.util.Arrays;
+import java.util.Collections;
 import java.util.List;
 import java.util.Random;
 import java.util.TreeSet;
 
 /**
  * Runs of drawn calls, each answered by the class and by a second, slow reading of the document written in lists and
- * sets; after every call all that can be asked is compared. At the end the edges of the document must have been met,
- * so that a run that never comes there does not pass for one that does.
+ * sets. Again and again in a run a new object is given the calls so far, and then asked all that can be asked, as far
+ * as its 512 calls go. At the end the edges of the document must have been met, so that a run that never comes there
+ * does not pass for one that does.
  */
 public final class ModelRuns {
   static final int UNKNOWN = -1000000001, OUTSIDE = -1000000002, NOT = -1000000003, FULL = -1000000004;
@@ -321,27 +323,83 @@ public final class ModelRuns {
     }
   }
 
+  static final int MOST_CALLS = 512;
   static int wrong = 0;
-  static final List<String> calls = new ArrayList<>();
 
-  static void due(String call, int got, int want) {
-    if (got == want) return;
-    wrong++;
-    if (wrong <= 5) System.out.println(call + " answered " + got + ", due is " + want + ", after " + calls);
+  /** A call, its arguments, and what the document asks for as its answer. */
+  static final class Call {
+    final String name;
+    final int[] with;
+    int due;
+
+    Call(String name, int... with) { this.name = name; this.with = with; }
+
+    @Override public String toString() { return name + Arrays.toString(with) + "=" + due; }
   }
 
-  static void compareAll(MovedWays x, Model m) {
-    for (int t = 0; t < 20; t++) due("told(" + t + ")", x.told(t), m.told(t));
-    for (int e = 0; e < 2; e++) {
-      for (int t = 0; t < 6; t++) due("end(" + e + ", " + t + ")", x.end(e, t), m.end(e, t));
-      for (int w = 0; w <= 40; w++) due("word(" + e + ", " + w + ")", x.word(e, w), m.word(e, w));
+  static int ofClass(MovedWays x, Call c) {
+    int[] a = c.with;
+    switch (c.name) {
+      case "told": return x.told(a[0]);
+      case "end": return x.end(a[0], a[1]);
+      case "place": return x.place(a[0], a[1]);
+      case "letter": return x.letter(a[0], a[1]);
+      case "challenge": return x.challenge(a[0], a[1]);
+      case "held": return x.held(a[0], a[1]);
+      case "name": return x.name(a[0]);
+      case "word": return x.word(a[0], a[1]);
+      case "say": return x.say();
+      case "open": return x.open(a[0]);
+      case "go": return x.go(a[0]);
+      case "close": return x.close(a[0]);
+      case "speak": return x.speak();
+      case "again": return x.again(a[0]);
+      case "arrive": return x.arrive(a[0]);
+      case "lose": return x.lose(a[0]);
+      case "twice": return x.twice(a[0]);
+      case "forge": return x.forge(a[0], a[1], a[2], a[3], a[4]);
+      case "tick": return x.tick();
+      case "drift": return x.drift(a[0]);
+      case "write": return x.write(a[0], a[1], a[2]);
+      case "tear": return x.tear();
+      case "seed": return x.seed(a[0]);
+      case "keep": return x.keep(a[0]);
+      default: return x.goBack(a[0]);
     }
-    for (int p = 0; p < 5; p++) for (int t = 0; t < 6; t++) due("place(" + p + ", " + t + ")", x.place(p, t), m.place(p, t));
-    for (int k = 0; k <= 24; k++) for (int t = 0; t < 6; t++) due("letter(" + k + ", " + t + ")", x.letter(k, t), Model.of(m.s.road, k, t));
-    for (int k = 0; k <= 6; k++) for (int t = 0; t < 5; t++) due("challenge(" + k + ", " + t + ")", x.challenge(k, t), Model.of(m.s.row, k, t));
-    for (int k = 0; k <= 12; k++) for (int t = 0; t < 3; t++) due("held(" + k + ", " + t + ")", x.held(k, t), Model.of(m.s.held, k, t));
-    for (int n = 0; n <= 40; n++) due("name(" + n + ")", x.name(n), m.name(n));
   }
+
+  static int ofModel(Model m, Call c) {
+    int[] a = c.with;
+    switch (c.name) {
+      case "told": return m.told(a[0]);
+      case "end": return m.end(a[0], a[1]);
+      case "place": return m.place(a[0], a[1]);
+      case "letter": return Model.of(m.s.road, a[0], a[1]);
+      case "challenge": return Model.of(m.s.row, a[0], a[1]);
+      case "held": return Model.of(m.s.held, a[0], a[1]);
+      case "name": return m.name(a[0]);
+      case "word": return m.word(a[0], a[1]);
+      case "say": return m.speaks(0);
+      case "open": return m.open(a[0]);
+      case "go": return m.go(a[0]);
+      case "close": return m.close(a[0]);
+      case "speak": return m.speaks(1);
+      case "again": return m.again(a[0]);
+      case "arrive": return m.arrive(a[0]);
+      case "lose": return m.lose(a[0]);
+      case "twice": return m.twice(a[0]);
+      case "forge": return m.forge(a[0], a[1], a[2], a[3], a[4]);
+      case "tick": return m.tick();
+      case "drift": return m.drift(a[0]);
+      case "write": return m.write(a[0], a[1], a[2]);
+      case "tear": return m.tear();
+      case "seed": return m.seed(a[0]);
+      case "keep": return m.keep(a[0]);
+      default: return m.goBack(a[0]);
+    }
+  }
+
+  // ---- drawing calls
 
   /** Mostly a number of 0 .. n - 1; now and then one just outside, or far away. */
   static int near(Random r, int n) {
@@ -352,16 +410,13 @@ public final class ModelRuns {
     return r.nextInt(Math.max(1, n));
   }
 
-  static void call(String text, int got, int want) { calls.add(text + "=" + got); due(text, got, want); }
-
   /** A forger who knows something: mostly live names and numbers near what the guest uses. */
-  static void forged(MovedWays x, Model m, Random r) {
+  static Call forged(Model m, Random r) {
     int name = r.nextInt(8) == 0 ? near(r, 100) - 1 : liveOne(m, r, -1);
     int number = r.nextInt(3) == 0 ? near(r, 10000) : m.s.numbered[0] + r.nextInt(60);
     int p = near(r, 5), kind = r.nextInt(3) == 0 ? 4 : near(r, 6);
     int value = kind == 4 && r.nextInt(8) != 0 ? liveOne(m, r, name) : r.nextInt(4) == 0 ? near(r, 100) : r.nextInt(12);
-    call("forge(" + p + ", " + name + ", " + number + ", " + kind + ", " + value + ")",
-        x.forge(p, name, number, kind, value), m.forge(p, name, number, kind, value));
+    return new Call("forge", p, name, number, kind, value);
   }
 
   static int liveOne(Model m, Random r, int but) {
@@ -370,41 +425,21 @@ public final class ModelRuns {
     return all.isEmpty() ? 0 : all.get(r.nextInt(all.size()));
   }
 
-  static void one(MovedWays x, Model m, Random r, int[] weight) {
-    int sum = Arrays.stream(weight).sum(), d = r.nextInt(sum), c = 0;
-    while (d >= weight[c]) d -= weight[c++];
-    int k = near(r, m.s.road.size()), p = near(r, 5), e = near(r, 2);
-    switch (c) {
-      case 0: call("say()", x.say(), m.speaks(0)); break;
-      case 1: call("open(" + p + ")", x.open(p), m.open(p)); break;
-      case 2: call("go(" + p + ")", x.go(p), m.go(p)); break;
-      case 3: call("close(" + p + ")", x.close(p), m.close(p)); break;
-      case 4: call("speak()", x.speak(), m.speaks(1)); break;
-      case 5: call("again(" + e + ")", x.again(e), m.again(e)); break;
-      case 6: call("arrive(" + k + ")", x.arrive(k), m.arrive(k)); break;
-      case 7: call("lose(" + k + ")", x.lose(k), m.lose(k)); break;
-      case 8: call("twice(" + k + ")", x.twice(k), m.twice(k)); break;
-      case 9: forged(x, m, r); break;
-      case 10: call("tick()", x.tick(), m.tick()); break;
-      case 11: int n = near(r, 21); call("drift(" + n + ")", x.drift(n), m.drift(n)); break;
-      case 12: int w = near(r, 40), is = near(r, 2); call("write(" + e + ", " + w + ", " + is + ")", x.write(e, w, is), m.write(e, w, is)); break;
-      case 13: call("tear()", x.tear(), m.tear()); break;
-      case 14: int v = r.nextInt(); call("seed(" + v + ")", x.seed(v), m.seed(v)); break;
-      case 15: call("keep(" + e + ")", x.keep(e), m.keep(e)); break;
-      default: call("goBack(" + e + ")", x.goBack(e), m.goBack(e)); break;
-    }
-  }
+  static final String[] CALLS = {"say", "open", "go", "close", "speak", "again", "arrive", "lose", "twice", "forge", "tick", "drift", "write", "tear", "seed", "keep", "goBack"};
 
-  static void wildQuestions(MovedWays x, Model m, Random r) {
-    int a = near(r, 30), b = near(r, 7);
-    due("told(" + a + ")", x.told(a), m.told(a));
-    due("end(" + a + ", " + b + ")", x.end(a, b), m.end(a, b));
-    due("place(" + a + ", " + b + ")", x.place(a, b), m.place(a, b));
-    due("letter(" + a + ", " + b + ")", x.letter(a, b), Model.of(m.s.road, a, b));
-    due("challenge(" + a + ", " + b + ")", x.challenge(a, b), Model.of(m.s.row, a, b));
-    due("held(" + a + ", " + b + ")", x.held(a, b), Model.of(m.s.held, a, b));
-    due("name(" + a + ")", x.name(a), m.name(a));
-    due("word(" + b + ", " + a + ")", x.word(b, a), m.word(b, a));
+  static Call drawn(Model m, Random r, int[] weight) {
+    int d = r.nextInt(Arrays.stream(weight).sum()), c = 0;
+    while (d >= weight[c]) d -= weight[c++];
+    switch (CALLS[c]) {
+      case "say": case "speak": case "tick": case "tear": return new Call(CALLS[c]);
+      case "open": case "go": case "close": return new Call(CALLS[c], near(r, 5));
+      case "arrive": case "lose": case "twice": return new Call(CALLS[c], near(r, m.s.road.size()));
+      case "forge": return forged(m, r);
+      case "drift": return new Call("drift", near(r, 21));
+      case "write": return new Call("write", near(r, 2), near(r, 40), near(r, 2));
+      case "seed": return new Call("seed", r.nextInt());
+      default: return new Call(CALLS[c], near(r, 2));
+    }
   }
 
   //                            say open go close speak again arrive lose twice forge tick drift write tear seed keep goBack
@@ -419,29 +454,74 @@ public final class ModelRuns {
       {0, 1, 1, 1, 0, 0, 60, 0, 0, 40, 1, 0, 9, 0, 0, 0, 0},
   };
 
-  public static void main(String[] args) {
-    int[] met = new int[9];
-    int names = 0, words = 0, settled = 0, bookFull = 0, top = 0;
-    for (int run = 0; run < 1200; run++) {
-      Random r = new Random(run);
-      MovedWays x = new MovedWays();
-      Model m = new Model();
-      calls.clear();
-      int[] manner = MANNERS[run % MANNERS.length];
-      compareAll(x, m);
-      for (int i = 0; i < 500 && wrong == 0; i++) {
-        one(x, m, r, manner);
-        compareAll(x, m);
-        wildQuestions(x, m, r);
-        if (m.settled()) settled++;
-      }
-      int[] now = {m.roadFull, m.heldFull, m.rowFull, m.forgotten, m.wentBack, m.leftBehind, m.closedByTick, m.otherPlaceProved, m.nameless};
-      for (int i = 0; i < met.length; i++) met[i] += now[i];
-      if (m.s.given == 40) names++;
-      if (m.s.said[0] == 40 || m.s.said[1] == 40) words++;
-      if (m.book.size() == 20) bookFull++;
-      top = Math.max(top, Math.max(m.s.numbered[0], m.s.numbered[1]));
+  // ---- comparing
+
+  /** All that can be asked of what is there, and one more of each row; then some wild ones. */
+  static List<Call> questions(Model m, Random r) {
+    List<Call> all = new ArrayList<>();
+    for (int t = 0; t < 20; t++) all.add(new Call("told", t));
+    for (int e = 0; e < 2; e++) {
+      for (int t = 0; t < 6; t++) all.add(new Call("end", e, t));
+      for (int w = 0; w <= m.s.said[1 - e]; w++) all.add(new Call("word", e, w));
     }
+    for (int p = 0; p < 5; p++) for (int t = 0; t < 6; t++) all.add(new Call("place", p, t));
+    for (int k = 0; k <= m.s.road.size(); k++) for (int t = 0; t < 6; t++) all.add(new Call("letter", k, t));
+    for (int k = 0; k <= m.s.row.size(); k++) for (int t = 0; t < 5; t++) all.add(new Call("challenge", k, t));
+    for (int k = 0; k <= m.s.held.size(); k++) for (int t = 0; t < 3; t++) all.add(new Call("held", k, t));
+    for (int n = 0; n <= m.s.given; n++) all.add(new Call("name", n));
+    Collections.shuffle(all, r);
+    for (String row : new String[] {"end", "place", "letter", "challenge", "held"}) all.add(r.nextInt(all.size()), new Call(row, near(r, 30), near(r, 7)));
+    all.add(0, new Call("told", near(r, 21)));
+    all.add(0, new Call("name", near(r, 41)));
+    all.add(0, new Call("word", near(r, 2), near(r, 41)));
+    return all;
+  }
+
+  static void compare(MovedWays x, Call c, List<Call> run) {
+    int got = ofClass(x, c);
+    if (got == c.due) return;
+    wrong++;
+    if (wrong <= 5) System.out.println(c + " answered " + got + ", in " + run);
+  }
+
+  /** A new object is given the run so far, and asked what is so as far as its calls go. */
+  static void look(List<Call> run, Model m, Random r) {
+    MovedWays x = new MovedWays();
+    for (Call c : run) compare(x, c, run);
+    int left = MOST_CALLS - run.size();
+    for (Call c : questions(m, r)) {
+      if (left-- <= 0) return;
+      c.due = ofModel(m, c);
+      compare(x, c, run);
+    }
+  }
+
+  static final int RUNS = 1200;
+  static final int[] met = new int[9];
+  static int names = 0, words = 0, settled = 0, bookFull = 0, top = 0;
+
+  static void oneRun(int number) {
+    Random r = new Random(number);
+    Model m = new Model();
+    List<Call> run = new ArrayList<>();
+    look(run, m, r);
+    for (int i = 0; i < MOST_CALLS && wrong == 0; i++) {
+      Call c = drawn(m, r, MANNERS[number % MANNERS.length]);
+      c.due = ofModel(m, c);
+      run.add(c);
+      if (r.nextInt(6) == 0 || i == MOST_CALLS - 1) look(run, m, r);
+      if (m.settled()) settled++;
+    }
+    int[] now = {m.roadFull, m.heldFull, m.rowFull, m.forgotten, m.wentBack, m.leftBehind, m.closedByTick, m.otherPlaceProved, m.nameless};
+    for (int i = 0; i < met.length; i++) met[i] += now[i];
+    if (m.s.given == 40) names++;
+    if (m.s.said[0] == 40 || m.s.said[1] == 40) words++;
+    if (m.book.size() == 20) bookFull++;
+    top = Math.max(top, Math.max(m.s.numbered[0], m.s.numbered[1]));
+  }
+
+  public static void main(String[] args) {
+    for (int run = 0; run < RUNS; run++) oneRun(run);
     System.out.println("met: road full, held full, row full, forgotten, went back, left behind, closed by a tick, another place proved, nameless "
         + Arrays.toString(met) + ", names " + names + ", words " + words + ", settled " + settled + ", book " + bookFull + ", top number " + top);
     for (int n : met) if (n == 0) wrong++;
